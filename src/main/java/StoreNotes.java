@@ -712,10 +712,11 @@ public final class StoreNotes {
         private static final int NEWKEEN = 14;
 
         /**
-         * What a, b and c of each instruction must be: r a root, q a root or NONE, n how many fields, i a NUMBER,
-         * p a place, - anything (a field's number is looked at behind NULL).
+         * What a, b and c of each instruction must be: r a root, q a root or NONE, n how many fields, f a field's
+         * number (that some object can have: whether this one has it is looked at behind NULL), i a NUMBER, p a place,
+         * - anything.
          */
-        private static final String TOLD = "--- rni r-q rr- rq- r-- r-- i-- iii ir- rp- iip p-- rrp rni";
+        private static final String TOLD = "--- rni rfq rrf rq- r-- r-- i-- iii ir- rp- iip p-- rrp rni";
 
         private final Heap heap;
         private final int[] instructions = new int[4 * MOST_INSTRUCTIONS];
@@ -787,6 +788,8 @@ public final class StoreNotes {
                     return number == NONE || isRoot(number);
                 case 'n':
                     return number >= 0 && number <= MOST_FIELDS;
+                case 'f':
+                    return number >= 0 && number < MOST_FIELDS;
                 case 'i':
                     return number >= 0 && number < NUMBERS;
                 case 'p':

@@ -193,9 +193,11 @@ public final class MachineTest {
     private static void wrongNumbers() {
         int[][] wrong = {{-1, 0, 0, 0}, {15, 0, 0, 0}, {MAX, 0, 0, 0}, {MIN, 0, 0, 0}, {NEW, -1, 0, 0},
             {NEW, 16, 0, 0}, {NEW, 0, -1, 0}, {NEW, 0, 7, 0}, {NEW, 0, 0, -1}, {NEW, 0, 0, 8}, {PUT, -1, 0, 0},
-            {PUT, 16, 0, 0}, {PUT, 0, 0, 16}, {PUT, 0, 0, -2}, {GET, -1, 0, 0}, {GET, 16, 0, 0}, {GET, 0, -1, 0},
-            {GET, 0, 16, 0}, {MOVE, -1, 0, 0}, {MOVE, 16, 0, 0}, {MOVE, 0, 16, 0}, {MOVE, 0, -2, 0}, {PUSH, -1, 0, 0},
-            {PUSH, 16, 0, 0}, {POP, -1, 0, 0}, {POP, 16, 0, 0}, {SET, -1, 0, 0}, {SET, 8, 0, 0}, {ADD, -1, 0, 0},
+            {PUT, 16, 0, 0}, {PUT, 0, -1, 0}, {PUT, 0, 6, 0}, {PUT, 0, MAX, 0}, {PUT, 0, MIN, 0}, {PUT, 0, 0, 16},
+            {PUT, 0, 0, -2}, {GET, -1, 0, 0}, {GET, 16, 0, 0}, {GET, 0, -1, 0}, {GET, 0, 16, 0}, {GET, 0, 0, -1},
+            {GET, 0, 0, 6}, {GET, 0, 0, MAX}, {GET, 0, 0, MIN}, {MOVE, -1, 0, 0}, {MOVE, 16, 0, 0}, {MOVE, 0, 16, 0},
+            {MOVE, 0, -2, 0}, {PUSH, -1, 0, 0}, {PUSH, 16, 0, 0}, {POP, -1, 0, 0}, {POP, 16, 0, 0}, {SET, -1, 0, 0},
+            {SET, 8, 0, 0}, {ADD, -1, 0, 0},
             {ADD, 8, 0, 0}, {ADD, 0, -1, 0}, {ADD, 0, 8, 0}, {ADD, 0, 0, -1}, {ADD, 0, 0, 8}, {NAME, -1, 0, 0},
             {NAME, 8, 0, 0}, {NAME, 0, -1, 0}, {NAME, 0, 16, 0}, {IFNULL, -1, 0, 0}, {IFNULL, 16, 0, 0},
             {IFNULL, 0, -1, 0}, {IFNULL, 0, 2, 0}, {IFLESS, -1, 0, 0}, {IFLESS, 8, 0, 0}, {IFLESS, 0, -1, 0},
@@ -241,16 +243,16 @@ public final class MachineTest {
 
     private static void nullRoots() {
         ends("PUT", with(SET, 0, 1, 0, PUT, 3, 0, 3), 2, 1, 1);
-        ends("PUT of a wrong field of NULL", with(PUT, 3, 99, -1), 2, 0, 0);
+        ends("PUT of the last field of NULL", with(PUT, 3, 5, -1), 2, 0, 0);
         ends("GET", with(GET, 3, 4, 0), 2, 0, 0);
-        ends("GET of a wrong field of NULL", with(GET, 3, 4, -1), 2, 0, 0);
+        ends("GET of the last field of NULL", with(GET, 3, 4, 5), 2, 0, 0);
         ends("NAME", with(NAME, 3, 4, 0), 2, 0, 0);
         ends("GET into a root of NULL", with(NEW, 4, 1, 0, GET, 3, 4, 0), 0, 2, 2);
     }
 
     private static void noSuchField() {
-        int[] wrong = {2, 6, 7, -1, MAX, MIN};
-        for (int field : wrong) {
+        int[] none = {2, 3, 4, 5};
+        for (int field : none) {
             ends("PUT " + field, with(NEW, 0, 2, 0, PUT, 0, field, 0), 3, 1, 1);
             ends("GET " + field, with(NEW, 0, 2, 0, GET, 0, 0, field), 3, 1, 1);
         }
@@ -283,8 +285,11 @@ public final class MachineTest {
         StoreNotes x = with(POP, 16, 0, 0);
         DUE.is("steps are told before WRONG", 6, () -> x.run(0, 0));
         DUE.is("WRONG is told before an empty STACK", 1, () -> x.run(0, 1));
-        StoreNotes y = with(PUT, 0, 9, 16);
-        DUE.is("WRONG is told before NULL", 1, () -> y.run(0, 1));
+        ends("a wrong root is told before NULL", with(PUT, 0, 0, 16), 1, 0, 0);
+        ends("a field that is none is told before NULL", with(PUT, 0, -1, 0), 1, 0, 0);
+        ends("the same behind the last field", with(PUT, 0, 6, 0), 1, 0, 0);
+        ends("the same of GET", with(GET, 0, 0, -1), 1, 0, 0);
+        ends("the same of GET behind the last field", with(GET, 0, 0, 6), 1, 0, 0);
         StoreNotes z = with(SET, 0, 1, 0, POP, 0, 0, 0);
         DUE.is("steps are told before an empty STACK", 6, () -> z.run(0, 1));
         DUE.is("PLACE", 1, () -> z.count(16));

@@ -456,8 +456,8 @@ final class Model {
         switch (i.what) {
             case 0: return true;
             case 1: case 14: return root(i.a) && within(i.b, 0, 6) && number(i.c);
-            case 2: return root(i.a) && (root(i.c) || i.c == -1);
-            case 3: return root(i.a) && root(i.b);
+            case 2: return root(i.a) && within(i.b, 0, 5) && (root(i.c) || i.c == -1);
+            case 3: return root(i.a) && root(i.b) && within(i.c, 0, 5);
             case 4: return root(i.a) && (root(i.b) || i.b == -1);
             case 5: case 6: return root(i.a);
             case 7: return number(i.a);

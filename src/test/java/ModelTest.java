@@ -91,7 +91,8 @@ public final class ModelTest {
         } else if (kind < 46) {
             int field = about(0, 3);
             int other = number(8) == 0 ? -1 : b;
-            call("put " + a + " " + field + " " + other, () -> x.put(a, field, other), () -> model.put(a, field, other));
+            call("put " + a + " " + field + " " + other, () -> x.put(a, field, other),
+                () -> model.put(a, field, other));
         } else if (kind < 52) {
             int field = about(0, 3);
             call("get " + a + " " + b + " " + field, () -> x.get(a, b, field), () -> model.get(a, b, field));
@@ -150,7 +151,7 @@ public final class ModelTest {
                 case 'r': code[k + 1] = number(12) == 0 ? -1 : about(0, roots); break;
                 case 'n': code[k + 1] = about(0, 7); break;
                 case 'i': code[k + 1] = about(0, 8); break;
-                case 'f': code[k + 1] = about(0, 3); break;
+                case 'f': code[k + 1] = number(8) == 0 ? about(0, 6) : about(0, 3); break;
                 case 'p': code[k + 1] = about(0, 10); break;
                 default: code[k + 1] = number(9) - 4; break;
             }
