@@ -153,10 +153,6 @@ public final class StoreNotes {
             case ABOUT_GENERATION:
                 return heap.homeOf(object).number;
             default:
-                // Without this the difference below could wrap round to a field's number.
-                if (what < 0) {
-                    throw new IndexOutOfBoundsException();
-                }
                 lookAtField(object, what - ABOUT_FIRST_FIELD);
                 return heap.fieldOf(object, what - ABOUT_FIRST_FIELD);
         }

@@ -5,16 +5,20 @@ final class Due {
         long answer();
     }
 
+    /** Makes an object and uses it, each time alike. */
+    interface Maker {
+        StoreNotes made();
+    }
+
+    /** A call of the face of the object that it is told. */
+    interface On {
+        long answer(StoreNotes x);
+    }
+
     private int wrong = 0;
 
     void is(String told, long want, Call call) {
-        String got;
-        try {
-            got = "" + call.answer();
-        } catch (RuntimeException e) {
-            got = "throws." + e.getClass().getSimpleName();
-        }
-        tell(told, got, "" + want);
+        tell(told, answer(call), "" + want);
     }
 
     void bounds(String told, StoreNotes x, Call call) {
@@ -31,14 +35,30 @@ final class Due {
 
     private void throwsAndKeeps(String told, StoreNotes x, Call call, String name) {
         String before = State.of(x);
-        String got;
-        try {
-            got = "" + call.answer();
-        } catch (RuntimeException e) {
-            got = "throws." + e.getClass().getSimpleName();
-        }
-        tell(told, got, "throws." + name);
+        tell(told, answer(call), "throws." + name);
         tell("the state behind " + told, State.of(x), before);
+    }
+
+    /** For what only tells: there is nothing that it could change. */
+    void noSuch(String told, Call call) {
+        tell(told, answer(call), "throws.IndexOutOfBoundsException");
+    }
+
+    /** A new object throws the exception and is then like a second one that was not called, its CODE too. */
+    void refuses(String told, String name, Maker maker, On call) {
+        StoreNotes called = maker.made();
+        StoreNotes other = maker.made();
+        tell(told, answer(() -> call.answer(called)), "throws." + name);
+        tell("the state behind " + told, State.of(called), State.of(other));
+        tell("the CODE behind " + told, "" + called.scrap(), "" + other.scrap());
+    }
+
+    private static String answer(Call call) {
+        try {
+            return "" + call.answer();
+        } catch (RuntimeException e) {
+            return "throws." + e.getClass().getSimpleName();
+        }
     }
 
     void same(String told, String got, String want) {

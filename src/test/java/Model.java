@@ -541,12 +541,9 @@ final class Model {
         StringBuilder text = new StringBuilder("counts");
         int[] counts = {words(inUse.get(0)), words(inUse.get(1)), words(inUse.get(2)), remembered.get(0).size(),
             remembered.get(1).size(), buffer.size(), stack.size(), wishes.size(), queue.size(), collections[0],
-            collections[1], collections[2], overflows, copied, promoted, steps, place};
+            collections[1], collections[2], overflows, copied, promoted};
         for (int count : counts) {
             text.append(' ').append(count);
-        }
-        for (int number : numbers) {
-            text.append(' ').append(number);
         }
         text.append(" roots");
         for (Thing root : roots) {
@@ -570,6 +567,10 @@ final class Model {
                     text.append(' ').append(at++).append(':').append(address(has));
                 }
             }
+        }
+        text.append(" machine ").append(steps).append(' ').append(place);
+        for (int number : numbers) {
+            text.append(' ').append(number);
         }
         return text.toString();
     }

@@ -6,8 +6,17 @@ final class State {
     }
 
     static String of(StoreNotes x) {
+        StringBuilder text = new StringBuilder(ofHeap(x)).append(" machine");
+        for (int what = 15; what <= 24; what++) {
+            text.append(' ').append(x.count(what));
+        }
+        return text.toString();
+    }
+
+    /** The same without the MACHINE's steps, PLACE and NUMBERS. */
+    static String ofHeap(StoreNotes x) {
         StringBuilder text = new StringBuilder("counts");
-        for (int what = 0; what <= 24; what++) {
+        for (int what = 0; what <= 14; what++) {
             text.append(' ').append(x.count(what));
         }
         text.append(" roots");
@@ -15,11 +24,7 @@ final class State {
             text.append(' ').append(x.root(root));
         }
         for (int row = 0; row <= 6; row++) {
-            text.append(" row").append(row);
-            int size = row == 6 ? 8 : x.count(3 + row);
-            for (int k = 0; k < size; k++) {
-                text.append(' ').append(x.row(row, k));
-            }
+            text.append(" row").append(row).append(row(x, row));
         }
         text.append(" words");
         int taken = x.count(0) + x.count(1) + x.count(2);
@@ -31,6 +36,16 @@ final class State {
             } catch (IndexOutOfBoundsException e) {
                 // Not taken: nothing to tell.
             }
+        }
+        return text.toString();
+    }
+
+    /** The addresses of a row, each one behind a blank. */
+    static String row(StoreNotes x, int row) {
+        StringBuilder text = new StringBuilder();
+        int size = row == 6 ? 8 : x.count(3 + row);
+        for (int k = 0; k < size; k++) {
+            text.append(' ').append(x.row(row, k));
         }
         return text.toString();
     }
