@@ -8,6 +8,7 @@ public final class CollectionEdgesTest {
         bufferIsFilteredAtFirst();
         generationsUpToG();
         rowsBeginAnew();
+        rowsOfBeforeAreForgotten();
         rootsThenStackThenQueueThenRows();
         rowOfZeroThenRowOfOneThenScan();
         rowsOfGenerationsAboveG();
@@ -139,6 +140,26 @@ public final class CollectionEdgesTest {
         x.collect(2);
         row("REMEMBERED 0 behind a collection of all", x, 0, "");
         row("REMEMBERED 1 behind a collection of all", x, 1, "");
+    }
+
+    /** The address 68 was REMEMBERED; a LABEL lies there since, which only looks like an address. */
+    private static void rowsOfBeforeAreForgotten() {
+        StoreNotes x = new StoreNotes(32, 0, 6, 2);
+        x.make(0, 2, 0, false);
+        x.collect(0);
+        x.make(1, 0, 1, false);
+        x.put(0, 1, 1);
+        x.collect(0);
+        Heaps.drop(x, 0, 1);
+        x.make(0, 0, 2, false);
+        x.make(1, 0, 33, false);
+        Heaps.collect(x, 1, 2);
+        DUE.is("the LABEL where the field was", 33, () -> x.word(68));
+        x.collect(0);
+        DUE.is("its word is an address", 33, () -> x.make(2, 0, 3, false));
+        Heaps.drop(x, 2);
+        DUE.is("nothing leads to that", 0, () -> x.collect(0));
+        DUE.is("the LABEL stays", 33, () -> x.word(68));
     }
 
     /** "4 ROOTS by number, the STACK from its lowest place on, the QUEUE from its first on are BROUGHT. 5 .." */
